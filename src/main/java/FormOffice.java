@@ -28,10 +28,9 @@ public final class FormOffice {
     private final Text[] formulas = new Text[LINES];
     /** For each line, a bit for each line that stands in its formula without '. */
     private final int[] needs = new int[LINES];
-    private final Table[] tables = new Table[TABLES];
     private final Return[] returns = new Return[TAXPAYERS * YEARS];
     private final Account[] accounts = new Account[TAXPAYERS];
-    private final Reader reader = new Reader(tables);
+    private final Calculator calculator = new Calculator();
     /** Refilled by arrangeLines: kept only so that no call has to make a new row. */
     private final int[] arranged = new int[LINES];
     /** Values go here first, so that an assessment that ends by overflow leaves the latest one as it was. */
@@ -43,9 +42,6 @@ public final class FormOffice {
     public FormOffice() {
         for (int i = 0; i < LINES; i++) {
             formulas[i] = new Text();
-        }
-        for (int i = 0; i < TABLES; i++) {
-            tables[i] = new Table();
         }
         for (int i = 0; i < TAXPAYERS * YEARS; i++) {
             returns[i] = new Return();
@@ -71,11 +67,11 @@ public final class FormOffice {
 
     public int define(int line) throws NoSuchElementException, IllegalArgumentException {
         requireLine(line);
-        if (!reader.isFormula(pad)) {
+        if (!calculator.isFormula(pad)) {
             throw new IllegalArgumentException("the text is no formula");
         }
         formulas[line].copy(pad);
-        needs[line] = reader.names;
+        needs[line] = calculator.names;
         pad.length = 0;
         return Integer.bitCount(needs[line]);
     }
@@ -98,7 +94,7 @@ public final class FormOffice {
     public int bracket(int table, int beginning, int rate)
             throws NoSuchElementException, IllegalArgumentException, IllegalStateException {
         requireTable(table);
-        Table changed = tables[table];
+        Table changed = calculator.tables[table];
         if (!changed.allowsBeginning(beginning) || rate < 0 || rate > Table.WHOLE) {
             throw new IllegalArgumentException("no such beginning or rate");
         }
@@ -114,7 +110,7 @@ public final class FormOffice {
         if (rounding < Table.DOWN || rounding > Table.HALVES_EVEN) {
             throw new IllegalArgumentException("no such rounding");
         }
-        Table changed = tables[table];
+        Table changed = calculator.tables[table];
         int had = changed.size;
         changed.size = 0;
         changed.rounding = rounding;
@@ -296,7 +292,7 @@ public final class FormOffice {
     /** The lowest line that is not placed and needs only placed ones; LINES if there is none. */
     private int lowestReady(int placed) {
         for (int line = 0; line < LINES; line++) {
-            if ((placed & 1 << line) == 0 && (needs[line] & ~placed) == 0) {
+            if ((placed & (1 << line)) == 0 && (needs[line] & ~placed) == 0) {
                 return line;
             }
         }
@@ -309,8 +305,8 @@ public final class FormOffice {
             if (!hasFormula(line)) {
                 working[line] = worked.numbers[line];
             } else {
-                working[line] = reader.work(formulas[line], working, before);
-                if (reader.overflow) {
+                working[line] = calculator.work(formulas[line], working, before);
+                if (calculator.overflow) {
                     return false;
                 }
             }
@@ -325,10 +321,7 @@ public final class FormOffice {
 
     /** The characters of the pad, or of a line's formula. */
     private static final class Text {
-        /** Stands behind the text; no formula has it. */
-        static final char END = 0;
-
-        private final char[] characters = new char[PAD_LENGTH];
+        final char[] characters = new char[PAD_LENGTH];
         int length = 0;
 
         boolean isFull() {
@@ -343,10 +336,6 @@ public final class FormOffice {
         void copy(Text other) {
             System.arraycopy(other.characters, 0, characters, 0, other.length);
             length = other.length;
-        }
-
-        char at(int place) {
-            return place < length ? characters[place] : END;
         }
     }
 
@@ -379,7 +368,7 @@ public final class FormOffice {
             size++;
         }
 
-        /** What the table makes of an amount: never more than the amount, so that it needs no look for overflow. */
+        /** What the table makes of an amount: no more than it, or 0, so that it needs no look for overflow. */
         long makeOf(long amount) {
             long thousandths = 0;
             for (int i = 0; i < size; i++) {
@@ -452,7 +441,7 @@ public final class FormOffice {
      * Reads a formula's text from the left and works it out on the way. What is read but not worked out (the
      * formula that a condition leaves aside, or a text that is only tried) is not LIVE: it can't overflow.
      */
-    private static final class Reader {
+    private static final class Calculator {
         private static final int DEEPEST = 4;
         private static final int NUMBER_DIGITS = 6;
         private static final int PERCENT_DIGITS = 3;
@@ -460,7 +449,10 @@ public final class FormOffice {
         /** Each formula in another one takes a character before it, so that none in a pad goes deeper. */
         private static final int MOST_LEVELS = PAD_LENGTH;
 
-        private final Table[] tables;
+        /** Stands behind a text; no formula has it. */
+        private static final char END = 0;
+
+        final Table[] tables = new Table[TABLES];
         private final long[] noValues = new long[LINES];
         private Text text = new Text();
         private int at = 0;
@@ -471,8 +463,10 @@ public final class FormOffice {
         int names = 0;
         boolean overflow = false;
 
-        Reader(Table[] tables) {
-            this.tables = tables;
+        Calculator() {
+            for (int i = 0; i < TABLES; i++) {
+                tables[i] = new Table();
+            }
         }
 
         boolean isFormula(Text tried) {
@@ -551,17 +545,13 @@ public final class FormOffice {
             if (depth >= DEEPEST) {
                 return refuse();
             }
-            switch (c) {
-                case '(':
-                    return readInBrackets(depth + 1, level + 1, live);
-                case 'm':
-                case 'x':
-                    return readOneOfTwo(depth + 1, level + 1, live);
-                case 't':
-                    return readTable(depth + 1, level + 1, live);
-                default:
-                    return refuse();
+            if (c == '(') {
+                return readInBrackets(depth + 1, level + 1, live);
             }
+            if (c == 'm' || c == 'x') {
+                return readOneOfTwo(depth + 1, level + 1, live);
+            }
+            return c == 't' ? readTable(depth + 1, level + 1, live) : refuse();
         }
 
         private long readName(int line) {
@@ -615,7 +605,7 @@ public final class FormOffice {
 
         /** A text that went wrong has no further characters, so that all reading ends soon. */
         private char next() {
-            return wrong ? Text.END : text.at(at);
+            return wrong || at >= text.length ? END : text.characters[at];
         }
 
         private boolean take(char c) {

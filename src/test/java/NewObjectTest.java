@@ -1,15 +1,66 @@
+import java.util.NoSuchElementException;
+
 /** Promise 1: a new object. */
 public final class NewObjectTest {
+    private static final Check CHECK = new Check();
+
     public static void main(String[] args) {
-        Check check = new Check();
+        formIsEmpty();
+        tablesAreEmptyAndRoundDown();
+        nothingIsFiledOrAssessed();
+        objectsAreApart();
+        CHECK.done();
+    }
+
+    private static void formIsEmpty() {
         FormOffice office = new FormOffice();
-        check.same("pad", 0, office.clear());
+        CHECK.same("pad", 0, office.clear());
         for (int line = 0; line < 12; line++) {
-            check.same("order " + line, line, office.order(line));
-            check.same("input " + line, false, office.input(line));
+            CHECK.same("order " + line, line, office.order(line));
+            CHECK.same("input " + line, false, office.input(line));
         }
-        check.same("total line", 11, office.total(11));
-        check.same("rate of interest", 0, office.interest(0));
-        check.done();
+        CHECK.same("total line", 11, office.total(11));
+        CHECK.same("rate of interest", 0, office.interest(0));
+    }
+
+    private static void tablesAreEmptyAndRoundDown() {
+        for (int table = 0; table < 3; table++) {
+            CHECK.same("brackets of table " + table, 0, new FormOffice().reset(table, 0));
+            CHECK.same("empty table " + table, 0L, Forms.worked("t" + table + "(A)", 1000000));
+            FormOffice office = new FormOffice();
+            office.bracket(table, 0, 999);
+            CHECK.same("table " + table + " rounds down", 0L, Forms.worked(office, "t" + table + "(A)", 1));
+        }
+    }
+
+    private static void nothingIsFiledOrAssessed() {
+        FormOffice office = new FormOffice();
+        for (int taxpayer = 0; taxpayer < 3; taxpayer++) {
+            int who = taxpayer;
+            CHECK.same("balance", 0L, office.balance(who));
+            CHECK.fails("posting", IllegalArgumentException.class, () -> office.posting(who, 0, 0));
+            for (int year = 0; year < 4; year++) {
+                int when = year;
+                CHECK.fails("value", IllegalStateException.class, () -> office.value(who, when, 0));
+                for (int line = 0; line < 12; line++) {
+                    CHECK.same("filed", 0, office.file(who, year, line, 0));
+                }
+            }
+        }
+        CHECK.fails("taxpayer 3", NoSuchElementException.class, () -> office.balance(3));
+    }
+
+    private static void objectsAreApart() {
+        FormOffice first = new FormOffice();
+        first.file(0, 0, 11, 7);
+        first.assess(0, 0);
+        first.bracket(0, 0, 1);
+        Forms.define(first, 0, "B");
+        Forms.type(first, "A");
+        FormOffice second = new FormOffice();
+        CHECK.same("pad of another", 0, second.clear());
+        CHECK.same("balance of another", 0L, second.balance(0));
+        CHECK.same("table of another", 0, second.reset(0, 0));
+        CHECK.same("formula of another", false, second.input(0));
     }
 }
