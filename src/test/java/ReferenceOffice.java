@@ -150,7 +150,8 @@ final class ReferenceOffice {
         Map<Integer, BigInteger> charged = new HashMap<>();
         for (int taxpayer = 0; taxpayer < 3; taxpayer++) {
             BigInteger due = BigInteger.valueOf(Math.max(0, balance(taxpayer)));
-            BigInteger interest = due.multiply(BigInteger.valueOf((long) rate * days)).divide(BigInteger.valueOf(36500));
+            BigInteger times = BigInteger.valueOf((long) rate * days);
+            BigInteger interest = due.multiply(times).divide(BigInteger.valueOf(36500));
             if (interest.signum() != 0) {
                 charged.put(taxpayer, interest);
             }
