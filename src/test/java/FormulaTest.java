@@ -104,13 +104,9 @@ public final class FormulaTest {
         return office.value(0, year, line);
     }
 
-    /** B is ten times A, C ten times B and D ten times C: with 1000000000 in A, D has the largest value. */
     private static FormOffice withLargest(int a) {
         FormOffice office = new FormOffice();
-        Forms.define(office, 1, "A*500%+A*500%");
-        Forms.define(office, 2, "B*500%+B*500%");
-        Forms.define(office, 3, "C*500%+C*500%");
-        office.file(0, 0, 0, a);
+        Forms.makeLarge(office, a);
         return office;
     }
 

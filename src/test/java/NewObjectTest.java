@@ -6,6 +6,7 @@ public final class NewObjectTest {
 
     public static void main(String[] args) {
         formIsEmpty();
+        nothingIsCharged();
         tablesAreEmptyAndRoundDown();
         nothingIsFiledOrAssessed();
         objectsAreApart();
@@ -23,6 +24,15 @@ public final class NewObjectTest {
         CHECK.same("rate of interest", 0, office.interest(0));
     }
 
+    private static void nothingIsCharged() {
+        FormOffice office = new FormOffice();
+        CHECK.same("no balances", 0, office.pass(1000));
+        office.file(0, 0, 11, 1000000000);
+        office.assess(0, 0);
+        CHECK.same("no rate", 0, office.pass(1000));
+        CHECK.same("balance", 1000000000L, office.balance(0));
+    }
+
     private static void tablesAreEmptyAndRoundDown() {
         for (int table = 0; table < 3; table++) {
             CHECK.same("brackets of table " + table, 0, new FormOffice().reset(table, 0));
@@ -30,6 +40,7 @@ public final class NewObjectTest {
             FormOffice office = new FormOffice();
             office.bracket(table, 0, 999);
             CHECK.same("table " + table + " rounds down", 0L, Forms.worked(office, "t" + table + "(A)", 1));
+            CHECK.same("table " + table + " rounds 1.998 down", 1L, Forms.worked(office, "t" + table + "(A)", 2));
         }
     }
 
@@ -42,6 +53,7 @@ public final class NewObjectTest {
             for (int year = 0; year < 4; year++) {
                 int when = year;
                 CHECK.fails("value", IllegalStateException.class, () -> office.value(who, when, 0));
+                CHECK.fails("share", IllegalStateException.class, () -> office.share(who, when, 11));
                 for (int line = 0; line < 12; line++) {
                     CHECK.same("filed", 0, office.file(who, year, line, 0));
                 }
