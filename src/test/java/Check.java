@@ -24,6 +24,18 @@ final class Check {
         same(what, due, got);
     }
 
+    /** The order has these lines, and does not go further. */
+    void order(FormOffice office, int... due) {
+        for (int i = 0; i < 12; i++) {
+            int place = i;
+            if (i < due.length) {
+                same("place " + place, due[place], office.order(place));
+            } else {
+                fails("place " + place, IllegalStateException.class, () -> office.order(place));
+            }
+        }
+    }
+
     void done() {
         System.out.println(checks + " answers looked at, " + wrong + " not as due");
         if (wrong != 0 || checks == 0) {

@@ -27,17 +27,6 @@ public final class OrderBoundaryTest {
         return String.valueOf((char) ('A' + line));
     }
 
-    private static void order(FormOffice office, int... due) {
-        for (int i = 0; i < 12; i++) {
-            int place = i;
-            if (i < due.length) {
-                CHECK.same("place " + place, due[place], office.order(place));
-            } else {
-                CHECK.fails("place " + place, IllegalStateException.class, () -> office.order(place));
-            }
-        }
-    }
-
     /** "IllegalArgumentException: place is not 0 .. 11." */
     private static void placesAreZeroToEleven() {
         BOUNDARY.range("place", 0, 11, IllegalArgumentException.class, Forms::makeBusy,
@@ -76,20 +65,20 @@ public final class OrderBoundaryTest {
     /** "again and again the lowest line that is not in it, all of whose lines .. are in it". */
     private static void lowestLineComesFirst() {
         FormOffice office = new FormOffice();
-        order(office, 0, 1, 2, 3, 4, 5, 6, 7, 8, 9, 10, 11);
+        CHECK.order(office, 0, 1, 2, 3, 4, 5, 6, 7, 8, 9, 10, 11);
         Forms.define(office, 0, "L");
-        order(office, 1, 2, 3, 4, 5, 6, 7, 8, 9, 10, 11, 0);
+        CHECK.order(office, 1, 2, 3, 4, 5, 6, 7, 8, 9, 10, 11, 0);
         Forms.define(office, 1, "K");
-        order(office, 2, 3, 4, 5, 6, 7, 8, 9, 10, 1, 11, 0);
+        CHECK.order(office, 2, 3, 4, 5, 6, 7, 8, 9, 10, 1, 11, 0);
         Forms.define(office, 11, "A'+C");
-        order(office, 2, 3, 4, 5, 6, 7, 8, 9, 10, 1, 11, 0);
+        CHECK.order(office, 2, 3, 4, 5, 6, 7, 8, 9, 10, 1, 11, 0);
         Forms.define(office, 2, "B");
-        order(office, 3, 4, 5, 6, 7, 8, 9, 10, 1, 2, 11, 0);
+        CHECK.order(office, 3, 4, 5, 6, 7, 8, 9, 10, 1, 2, 11, 0);
         Forms.define(office, 10, "3");
-        order(office, 3, 4, 5, 6, 7, 8, 9, 10, 1, 2, 11, 0);
+        CHECK.order(office, 3, 4, 5, 6, 7, 8, 9, 10, 1, 2, 11, 0);
         FormOffice all = new FormOffice();
         Forms.define(all, 0, "B+C+D+E+F+G+H+I+J+K+L");
-        order(all, 1, 2, 3, 4, 5, 6, 7, 8, 9, 10, 11, 0);
+        CHECK.order(all, 1, 2, 3, 4, 5, 6, 7, 8, 9, 10, 11, 0);
     }
 
     /** "The form is a RING when some lines do not come into it." */
@@ -108,17 +97,17 @@ public final class OrderBoundaryTest {
     private static void ringOfTwoAndOfAllLines() {
         FormOffice two = new FormOffice();
         Forms.define(two, 0, "L");
-        order(two, 1, 2, 3, 4, 5, 6, 7, 8, 9, 10, 11, 0);
+        CHECK.order(two, 1, 2, 3, 4, 5, 6, 7, 8, 9, 10, 11, 0);
         Forms.define(two, 11, "A");
-        order(two, 1, 2, 3, 4, 5, 6, 7, 8, 9, 10);
+        CHECK.order(two, 1, 2, 3, 4, 5, 6, 7, 8, 9, 10);
         FormOffice all = new FormOffice();
         for (int line = 0; line < 11; line++) {
             Forms.define(all, line, name(line + 1));
         }
-        order(all, 11, 10, 9, 8, 7, 6, 5, 4, 3, 2, 1, 0);
+        CHECK.order(all, 11, 10, 9, 8, 7, 6, 5, 4, 3, 2, 1, 0);
         all.assess(0, 0);
         Forms.define(all, 11, "A");
-        order(all);
+        CHECK.order(all);
         CHECK.fails("a ring of all lines", IllegalStateException.class, () -> all.assess(0, 0));
     }
 
@@ -127,7 +116,7 @@ public final class OrderBoundaryTest {
         Forms.define(office, 4, "E");
         Forms.define(office, 5, "E");
         Forms.define(office, 6, "F+A");
-        order(office, 0, 1, 2, 3, 7, 8, 9, 10, 11);
+        CHECK.order(office, 0, 1, 2, 3, 7, 8, 9, 10, 11);
         CHECK.fails("a ring", IllegalStateException.class, () -> office.assess(0, 0));
     }
 
@@ -141,7 +130,7 @@ public final class OrderBoundaryTest {
         for (int line = 0; line < 12; line++) {
             Forms.define(office, line, name((line + 1) % 12) + "'");
         }
-        order(office, 0, 1, 2, 3, 4, 5, 6, 7, 8, 9, 10, 11);
+        CHECK.order(office, 0, 1, 2, 3, 4, 5, 6, 7, 8, 9, 10, 11);
     }
 
     private static void linesLeftAsideMakeARing() {

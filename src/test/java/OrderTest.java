@@ -10,32 +10,21 @@ public final class OrderTest {
         CHECK.done();
     }
 
-    private static void order(FormOffice office, int... due) {
-        for (int place = 0; place < 12; place++) {
-            int at = place;
-            if (place < due.length) {
-                CHECK.same("place " + place, due[place], office.order(place));
-            } else {
-                CHECK.fails("place " + place, IllegalStateException.class, () -> office.order(at));
-            }
-        }
-    }
-
     private static void lowestReadyLineFirst() {
         FormOffice office = new FormOffice();
         Forms.define(office, 0, "F");
-        order(office, 1, 2, 3, 4, 5, 0, 6, 7, 8, 9, 10, 11);
+        CHECK.order(office, 1, 2, 3, 4, 5, 0, 6, 7, 8, 9, 10, 11);
         Forms.define(office, 1, "A+C");
-        order(office, 2, 3, 4, 5, 0, 1, 6, 7, 8, 9, 10, 11);
+        CHECK.order(office, 2, 3, 4, 5, 0, 1, 6, 7, 8, 9, 10, 11);
         Forms.define(office, 2, "L");
-        order(office, 3, 4, 5, 0, 6, 7, 8, 9, 10, 11, 2, 1);
+        CHECK.order(office, 3, 4, 5, 0, 6, 7, 8, 9, 10, 11, 2, 1);
         Forms.define(office, 5, "L'+F'");
-        order(office, 3, 4, 5, 0, 6, 7, 8, 9, 10, 11, 2, 1);
+        CHECK.order(office, 3, 4, 5, 0, 6, 7, 8, 9, 10, 11, 2, 1);
         FormOffice reversed = new FormOffice();
         for (int line = 0; line < 11; line++) {
             Forms.define(reversed, line, "" + (char) ('B' + line));
         }
-        order(reversed, 11, 10, 9, 8, 7, 6, 5, 4, 3, 2, 1, 0);
+        CHECK.order(reversed, 11, 10, 9, 8, 7, 6, 5, 4, 3, 2, 1, 0);
     }
 
     private static void namesInAllBranchesCount() {
@@ -43,21 +32,21 @@ public final class OrderTest {
         Forms.define(office, 0, "1<2?B:C");
         Forms.define(office, 1, "m(1,t0(D))");
         Forms.define(office, 2, "1<2?0:(E)*0%");
-        order(office, 3, 1, 4, 2, 0, 5, 6, 7, 8, 9, 10, 11);
+        CHECK.order(office, 3, 1, 4, 2, 0, 5, 6, 7, 8, 9, 10, 11);
     }
 
     private static void rings() {
         FormOffice office = new FormOffice();
         Forms.define(office, 2, "C");
-        order(office, 0, 1, 3, 4, 5, 6, 7, 8, 9, 10, 11);
+        CHECK.order(office, 0, 1, 3, 4, 5, 6, 7, 8, 9, 10, 11);
         Forms.define(office, 0, "1>2?C:0");
-        order(office, 1, 3, 4, 5, 6, 7, 8, 9, 10, 11);
+        CHECK.order(office, 1, 3, 4, 5, 6, 7, 8, 9, 10, 11);
         Forms.define(office, 2, "C'");
-        order(office, 1, 2, 0, 3, 4, 5, 6, 7, 8, 9, 10, 11);
+        CHECK.order(office, 1, 2, 0, 3, 4, 5, 6, 7, 8, 9, 10, 11);
         for (int line = 0; line < 12; line++) {
             Forms.define(office, line, "" + (char) ('A' + (line + 1) % 12));
         }
-        order(office);
+        CHECK.order(office);
     }
 
     private static void wrongPlaces() {

@@ -263,46 +263,40 @@ public final class ReturnBoundaryTest {
         CHECK.same("its difference", 10L, office.posting(0, 3, 2));
     }
 
-    private static Boundary.Calls oneAssessed(int taxpayer, int year) {
-        return office -> {
-            office.file(taxpayer, year, 0, 30);
-            office.file(taxpayer, year, 11, 40);
-            office.assess(taxpayer, year);
-        };
+    private interface CallOfReturn {
+        Object on(FormOffice office, int taxpayer, int year);
+    }
+
+    /** Of all returns one was assessed, with 30 in A and a total of 40: only of that one does the call answer. */
+    private static void onlyOfAnAssessment(Object due, CallOfReturn call) {
+        for (int i = 0; i < 3 * 4; i++) {
+            int taxpayer = i / 4;
+            int year = i % 4;
+            Boundary.Calls before = office -> {
+                office.file(taxpayer, year, 0, 30);
+                office.file(taxpayer, year, 11, 40);
+                office.assess(taxpayer, year);
+            };
+            BOUNDARY.taken("assessed", due, before, office -> call.on(office, taxpayer, year));
+            BOUNDARY.refused("another year", IllegalStateException.class, before,
+                    office -> call.on(office, taxpayer, (year + 1) % 4));
+            BOUNDARY.refused("another taxpayer", IllegalStateException.class, before,
+                    office -> call.on(office, (taxpayer + 1) % 3, year));
+        }
+        BOUNDARY.refused("only filed", IllegalStateException.class, office -> office.file(0, 0, 0, 1),
+                office -> call.on(office, 0, 0));
+        BOUNDARY.refused("only paid", IllegalStateException.class, office -> office.pay(0, 1),
+                office -> call.on(office, 0, 0));
     }
 
     /** "The value of a line in the latest assessment of a return. IllegalStateException: it was not assessed." */
     private static void valueOnlyOfAnAssessment() {
-        for (int i = 0; i < 3 * 4; i++) {
-            int taxpayer = i / 4;
-            int year = i % 4;
-            Boundary.Calls before = oneAssessed(taxpayer, year);
-            BOUNDARY.taken("assessed", 30L, before, office -> office.value(taxpayer, year, 0));
-            BOUNDARY.refused("another year", IllegalStateException.class, before,
-                    office -> office.value(taxpayer, (year + 1) % 4, 0));
-            BOUNDARY.refused("another taxpayer", IllegalStateException.class, before,
-                    office -> office.value((taxpayer + 1) % 3, year, 0));
-        }
-        BOUNDARY.refused("only filed", IllegalStateException.class, office -> office.file(0, 0, 0, 1),
-                office -> office.value(0, 0, 0));
-        BOUNDARY.refused("only paid", IllegalStateException.class, office -> office.pay(0, 1),
-                office -> office.value(0, 0, 0));
+        onlyOfAnAssessment(30L, (office, taxpayer, year) -> office.value(taxpayer, year, 0));
     }
 
     /** "IllegalStateException: it was not assessed.", for share. */
     private static void shareOnlyOfAnAssessment() {
-        for (int i = 0; i < 3 * 4; i++) {
-            int taxpayer = i / 4;
-            int year = i % 4;
-            Boundary.Calls before = oneAssessed(taxpayer, year);
-            BOUNDARY.taken("assessed", 0.75, before, office -> office.share(taxpayer, year, 0));
-            BOUNDARY.refused("another year", IllegalStateException.class, before,
-                    office -> office.share(taxpayer, (year + 1) % 4, 0));
-            BOUNDARY.refused("another taxpayer", IllegalStateException.class, before,
-                    office -> office.share((taxpayer + 1) % 3, year, 0));
-        }
-        BOUNDARY.refused("only filed", IllegalStateException.class, office -> office.file(0, 0, 11, 1),
-                office -> office.share(0, 0, 11));
+        onlyOfAnAssessment(0.75, (office, taxpayer, year) -> office.share(taxpayer, year, 0));
     }
 
     private static double shareOf(int value, int total) {
