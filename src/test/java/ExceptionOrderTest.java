@@ -130,7 +130,7 @@ public final class ExceptionOrderTest {
         BOUNDARY.refused("a formula, v", ARGUMENT, Forms::makeBusy, office -> office.file(0, 0, 11, MOST + 1));
     }
 
-    /** Line L overflows in all returns, and its account may be full. */
+    /** Line K overflows in all returns; the accounts have so many postings. */
     private static void makeOverflow(FormOffice office, int postings) {
         for (int taxpayer = 0; taxpayer < 3; taxpayer++) {
             Forms.fillAccount(office, taxpayer, postings);

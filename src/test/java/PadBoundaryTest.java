@@ -2,7 +2,7 @@
 public final class PadBoundaryTest {
     private static final Check CHECK = new Check();
     private static final Boundary BOUNDARY = new Boundary(CHECK);
-    /** 40 characters, whose value is 29; a character less would make it 20, one more 119 or more. */
+    /** 40 characters, whose value is 29; with another last character, one less or one more it would be another. */
     private static final String FORTY = "1+1+1+1+1+1+1+1+1+1+1+1+1+1+1+1+1+1+1+10";
 
     public static void main(String[] args) {
@@ -40,10 +40,10 @@ public final class PadBoundaryTest {
     private static void fullPadKeepsItsFormula() {
         CHECK.same("length", 40, FORTY.length());
         BOUNDARY.refused("41st behind a formula", false, office -> Forms.type(office, FORTY),
-                office -> office.type('0'));
+                office -> office.type('9'));
         FormOffice office = new FormOffice();
         Forms.type(office, FORTY);
-        office.type('0');
+        CHECK.same("41st", false, office.type('9'));
         CHECK.same("lines", 0, office.define(11));
         CHECK.same("value", 29L, office.assess(0, 0));
         CHECK.same("40 characters with a name at the end", 1,
